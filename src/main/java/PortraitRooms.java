@@ -153,11 +153,6 @@ public final class PortraitRooms {
     }
 
     public int paint(int picture, int part, int hand) {
-        Picture shown = pictureAt(picture);
-        Hand painter = handAt(hand);
-        if (shown == null || painter == null || !within(part, PARTS - 1)) {
-            return NONE;
-        }
         int against = standsAgainst(picture, part, hand);
         if (against == 0) {
             addLayer(picture, part, hand);

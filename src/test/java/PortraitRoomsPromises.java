@@ -125,6 +125,7 @@ public final class PortraitRoomsPromises {
         }
         due("4 6 came", x.hand(), NONE);
         due("4 hands", x.count(1), 7);
+        no("4 there is no hand 7", x.habit(7, 1));
     }
 
     private static void promise5Sitter() {
@@ -146,6 +147,8 @@ public final class PortraitRoomsPromises {
         due("5 20 came", x.sitter(0, 5), NONE);
         due("5 sitters", x.count(2), 20);
         due("5 the last is there", x.due(19), 0);
+        due("5 there is no sitter 20", x.due(20), NONE);
+        due("5 sitter 20 has no picture", x.picture(20, 0, 10000, NONE), NONE);
     }
 
     private static void promise6Picture() {
@@ -181,6 +184,8 @@ public final class PortraitRoomsPromises {
         due("6 40 came", x.picture(0, 0, 10000, NONE), NONE);
         due("6 nothing more is due", x.due(0), 3);
         due("6 pictures", x.count(3), 40);
+        due("6 there is no picture 40", x.told(40, 1), NONE);
+        no("6 picture 40 has no traces", x.trace(40, 1));
     }
 
     private static void promise7Go() {
@@ -302,6 +307,35 @@ public final class PortraitRoomsPromises {
         due("10 booked for 1", x.told(1, 4), 1);
     }
 
+    /** What goes must leave the other sittings as they were, wherever the class keeps them. */
+    private static void promise10UnbookLeavesOthers() {
+        PortraitRooms x = twoSitters();
+        x.picture(0, 0, 30000, NONE);
+        x.picture(1, 0, 30000, NONE);
+        x.book(0, 9, 1);
+        x.book(1, 0, 0);
+        due("10 the second sitting is used", x.paint(1, 0, 0), 0);
+        yes("10 the first goes", x.unbook(0, 9));
+        due("10 the used one stays used", x.paint(1, 0, 0), 5);
+        no("10 the used one can't go", x.unbook(1, 0));
+        no("10 its sitter came", x.book(1, 0, 0));
+        no("10 its hour is taken", x.book(0, 0, 0));
+        yes("10 a new one", x.book(0, 0, 1));
+        due("10 the new one is unused", x.paint(0, 0, 0), 0);
+        x.book(0, 5, 1);
+        x.book(1, 5, 0);
+        yes("10 the one before goes", x.unbook(0, 5));
+        no("10 the other sitter comes", x.book(1, 5, 0));
+        yes("10 the hour that went is free", x.book(0, 5, 1));
+        due("10 there", x.count(5), 4);
+        PortraitRooms y = twoSitters();
+        y.picture(0, 0, 10000, NONE);
+        y.book(0, 0, 0);
+        yes("10 the only one goes", y.unbook(0, 0));
+        due("10 none there", y.count(5), 0);
+        due("10 none to use", y.paint(0, 0, 0), 5);
+    }
+
     private static void promise11PaintRefusals() {
         PortraitRooms x = twoSitters();
         x.hand();
@@ -365,6 +399,19 @@ public final class PortraitRoomsPromises {
         due("11 the ground needs no robe", x.paint(0, 3, 1), 0);
         due("11 three on another day", x.paint(0, 3, 1), 4);
         due("11 layers", x.count(6), 9);
+    }
+
+    private static void promise11PaintRobes() {
+        for (int robe = 0; robe < 5; robe++) {
+            PortraitRooms x = twoSitters();
+            x.picture(0, 0, 10200, robe);
+            x.picture(1, 0, 10200, robe);
+            due("11 robe " + robe, x.paint(1, 2, 0), 0);
+            due("11 away is robe " + robe, x.paint(0, 2, 0), 6);
+            due("11 the same picture has robe " + robe, x.paint(1, 2, 0), 0);
+            x.go(1);
+            due("11 back is robe " + robe, x.paint(0, 2, 0), 0);
+        }
     }
 
     private static void promise12Pay() {
@@ -582,6 +629,12 @@ public final class PortraitRoomsPromises {
         no("19 margin -1", x.margin(-1));
         no("19 margin 100", x.margin(100));
         due("19 5 at first: 9 isn't less than 4 and 5", x.whose(0, 0), 1);
+        x.strokes(0, 1, 1000);
+        x.habit(0, 1002);
+        x.habit(1, 1000);
+        due("19 5 at first: 4 is less than 0 and 5", x.whose(0, 1), PortraitRooms.DOUBT);
+        x.habit(0, 3);
+        x.habit(1, 2);
         yes("19 margin 6", x.margin(6));
         due("19 6", x.whose(0, 0), PortraitRooms.DOUBT);
         yes("19 margin 0", x.margin(0));
@@ -794,8 +847,10 @@ public final class PortraitRoomsPromises {
         promise8Light();
         promise9Book();
         promise10Unbook();
+        promise10UnbookLeavesOthers();
         promise11PaintRefusals();
         promise11PaintDay();
+        promise11PaintRobes();
         promise12Pay();
         promise13Planned();
         promise14Worth();
