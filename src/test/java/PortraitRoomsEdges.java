@@ -135,6 +135,9 @@ public final class PortraitRoomsEdges {
             each(1, 6, "habit # 0 = 0; paint 0 4 # = NONE; hand = #; paint 0 4 # = 1; habit # 9999 = 1"),
             "hand = NONE; hand = NONE; count 1 = 7; habit 7 0 = 0; paint 0 4 7 = NONE",
             "margin 0 = 1; whose 0 0 = 1");
+        sentence("the 7th HAND that doesn't come leaves the 6th as it was", "sitter 0 5 = 0; picture 0 0 10003 NONE = 0",
+            each(1, 6, "hand = #"), "habit 6 5 = 1; strokes 0 4 5 = 1; paint 0 4 6 = 0; paint 0 4 6 = 0; hand = NONE; whose 0 4 = 6",
+            "paint 0 4 6 = 0; hand = NONE; picture 0 0 10003 NONE = 1; paint 1 4 6 = 4; paint 1 4 5 = 0");
         sentence("no such HAND", onePicture(), "hand = 1",
             "paint 0 4 MIN = NONE; paint 0 4 -1 = NONE; paint 0 4 0 = 1; paint 0 4 1 = 1",
             "paint 0 4 2 = NONE; paint 0 4 MAX = NONE",
@@ -287,7 +290,8 @@ public final class PortraitRoomsEdges {
             "part 0 -1 0 = NONE; part 0 5 0 = NONE; part 0 MIN 0 = NONE; part 0 MAX 0 = NONE; part 0 4 0 = 0");
         sentence("1 the PART wants no more", "sitter 0 5 = 0; picture 0 0 10203 NONE = 0; paint 0 1 0 = 1; paint 0 3 0 = 1",
             "paint 0 2 0 = 0; paint 0 2 0 = 0; paint 0 2 0 = 1; go 1 = 1; paint 0 2 0 = 1",
-            "paint 0 4 0 = 0; paint 0 4 0 = 0; paint 0 4 0 = 0; paint 0 4 0 = 1; part 0 4 0 = 3; count 6 = 5");
+            "paint 0 4 0 = 0; paint 0 4 0 = 0; paint 0 4 0 = 0; paint 0 4 0 = 1; part 0 4 0 = 3; count 6 = 5",
+            "hand = 1; go 1 = 2; paint 0 4 1 = 1; part 0 4 2 = 1; part 0 4 3 = 0");
         for (int part = 1; part < 5; part++) {
             sentence("2 its latest LAYER was painted less than DRY DAYS ago, part " + part,
                 "sitter 0 5 = 0; picture 0 0 13333 NONE = 0; paint 0 P 0 = 0; part 0 P 4 = 0; dry P 1 = 1".replace("P", "" + part),
@@ -451,6 +455,9 @@ public final class PortraitRoomsEdges {
             "margin 0 = 1; whose 0 0 = 0; habit 1 0 = 1; whose 0 0 = 0; margin 1 = 1; whose 0 0 = DOUBT; habit 1 1 = 1; whose 0 0 = 0",
             "margin 99 = 1; habit 1 77 = 1; whose 0 0 = DOUBT; margin 98 = 1; whose 0 0 = 0; margin 99 = 1; habit 1 771 = 1; whose 0 0 = 0",
             "margin 100 = 0; habit 1 77 = 1; whose 0 0 = DOUBT");
+        sentence("less than MARGIN more than the least sum, not than 0", onePicture(), "hand = 1; strokes 0 0 0 = 1; habit 0 9000 = 1",
+            "habit 1 9001 = 1; whose 0 0 = DOUBT; habit 1 9002 = 1; whose 0 0 = DOUBT; habit 1 9012 = 1; whose 0 0 = 0",
+            "margin 0 = 1; habit 1 9 = 1; whose 0 0 = 0; margin 1 = 1; whose 0 0 = DOUBT");
         sentence("if another one's, a later or an earlier one", onePicture(), "hand = 1; hand = 2; strokes 0 0 0 = 1; habit 1 0 = 1",
             "habit 0 2 = 1; whose 0 0 = DOUBT; habit 0 9 = 1; whose 0 0 = 1; habit 2 2 = 1; whose 0 0 = DOUBT");
     }

@@ -21,11 +21,12 @@ public final class PortraitRoomsRefusals {
     private static int wrong = 0;
 
     private static final String SEASON = "sitter 0 5; sitter 0 1; sitter 2 3; list 0 0 101; list 1 1 55; hand; hand;"
-        + "picture 0 0 21211 2; picture 1 0 10200 2; picture 2 1 20011 -1; book 0 0 0; book 2 0 2; paint 0 0 0;"
-        + "paint 0 2 1; paint 2 4 1; paint 0 3 1; dry 4 2; dry 0 1; habit 0 1234; habit 1 4321; strokes 0 2 1235;"
-        + "strokes 2 4 3333; trace 0 7; trace 1 6; trace 2 3; margin 9; book 1 1 0; book 0 1 1; book 2 2 2; pay 0 20;"
-        + "go 1; paint 1 0 0; paint 1 2 0; paint 0 4 0; unbook 2 2; go 1; paint 1 2 2; book 0 5 0; book 2 2 2;"
-        + "paint 2 0 0; paint 0 1 1; paint 0 1 2; paint 0 2 2; go 3; paint 0 0 0; pay 0 81; pay 1 101; go 360;"
+        + "picture 0 0 22212 2; picture 1 0 10200 2; picture 2 1 20012 -1; book 0 0 0; book 2 0 2; paint 0 0 0;"
+        + "paint 0 2 1; paint 2 4 1; paint 0 3 1; dry 4 2; dry 2 3; dry 0 1; habit 0 1234; habit 1 1257;"
+        + "strokes 0 2 1235; strokes 2 4 3333; trace 0 7; trace 1 6; trace 2 3; margin 9; book 1 1 0; book 0 1 1;"
+        + "book 2 2 2; pay 0 20; go 1; paint 2 4 2; paint 1 0 0; paint 1 2 0; paint 0 4 0; unbook 2 2; go 1;"
+        + "paint 2 4 2; paint 1 2 2; book 0 5 0; book 2 2 2; paint 2 0 0; paint 0 1 1; paint 0 1 2; paint 0 2 2; go 3;"
+        + "paint 1 2 1; paint 0 2 1; paint 0 0 0; paint 0 4 0; pay 1 101; go 1; paint 0 2 1; pay 0 81; go 359;"
         + "list 1 0 9999; book 2 365 2; paint 2 0 0; paint 2 3 1";
 
     private static List<Words> calls(String lines) {
@@ -111,10 +112,11 @@ public final class PortraitRoomsRefusals {
         grid(all, "pay", "0 1", "1");
         grid(all, "picture", "0", "0 1 2 3", "10000", "-1");
         grid(all, "told", "3 4 5 6", "1");
-        grid(all, "list", "1", "3", "8");
         grid(all, "go", "1 365");
         grid(all, "picture", "0", "0 1 2 3", "10000", "-1");
         grid(all, "told", "7 8 9 10", "1");
+        grid(all, "list", "1", "3", "8");
+        grid(all, "picture", "0", "3", "10000", "-1");
         grid(all, "strokes", "0", "0 2 4", "1200");
         grid(all, "whose", "0", "0 2 4");
         return all;
@@ -207,7 +209,7 @@ public final class PortraitRoomsRefusals {
         List<Words> pool = pool();
         season(pool);
         full(pool, "sitter 0 5; picture 0 0 11111 0", 60, "list 1 3 #");
-        full(pool, "sitter 0 5; picture 0 0 11111 0", 6, "hand");
+        full(pool, "sitter 0 5; picture 0 0 11111 0; strokes 0 4 1", 6, "hand; habit 6 1");
         full(pool, "list 0 0 9", 20, "sitter 0 5");
         full(pool, "sitter 0 5; list 0 0 9; hand", 40, "picture 0 0 11111 0");
         full(pool, "sitter 0 5; sitter 0 5; picture 0 0 31111 0; picture 1 0 31111 0", 200, "book 0 # 0");
